@@ -59,7 +59,7 @@ public final class WindowDesk {
             return NO;
         }
         screen.setSize(asked);
-        sendLooseOnes(s, s);
+        sendAll(s, s);
         return 0;
     }
 
@@ -79,12 +79,7 @@ public final class WindowDesk {
         }
         int moved = windowsOn(s);
         keepAll(s);
-        for (int i = 0; i < WINDOWS; i++) {
-            if (windows[i].isTiled() && windows[i].screen == s) {
-                windows[i].screen = to;
-            }
-        }
-        sendLooseOnes(s, to);
+        sendAll(s, to);
         screens[to].tree.copyFrom(trial);
         old.tree.clear();
         old.there = false;
@@ -481,7 +476,11 @@ public final class WindowDesk {
     }
 
     private int windowsOn(int s) {
-        return screens[s].tree.tabsInAll() + looseOnes(s);
+        int found = 0;
+        for (int i = 0; i < WINDOWS; i++) {
+            found += windows[i].isOn(s) ? 1 : 0;
+        }
+        return found;
     }
 
     private boolean looseOnesFit(int s, int[] size) {
@@ -493,9 +492,9 @@ public final class WindowDesk {
         return true;
     }
 
-    private void sendLooseOnes(int from, int to) {
+    private void sendAll(int from, int to) {
         for (int i = 0; i < WINDOWS; i++) {
-            if (windows[i].isLooseOn(from)) {
+            if (windows[i].isOn(from)) {
                 windows[i].sendTo(to, screens[to].size);
             }
         }
@@ -619,7 +618,7 @@ public final class WindowDesk {
         raise(window, 0);
     }
 
-    /** Each dialog that is raised leaves the lowest place to the next one, so their order stays. */
+    /** A dialog that is raised leaves the lowest place to the next one: so each has its turn, in order. */
     private void raise(int window, int depth) {
         if (depth >= WINDOWS || !isWindow(window)) {
             return;
@@ -873,8 +872,13 @@ public final class WindowDesk {
             return there && kind == STICKY;
         }
 
+        /** Sticky ones are on no screen more than on another. */
+        boolean isOn(int s) {
+            return there && kind != STICKY && screen == s;
+        }
+
         boolean isLooseOn(int s) {
-            return isFloating() && kind != STICKY && screen == s;
+            return isOn(s) && kind != TILED;
         }
 
         boolean fallsUnder(int asked) {
@@ -959,7 +963,8 @@ public final class WindowDesk {
 
         /** All tabs; those of one leaf stand in it in their order. */
         private final Row tabs = new Row();
-        private final int[] leaves = new int[WINDOWS];
+        /** The leaf of each window. */
+        private final int[] homes = new int[WINDOWS];
         private final int[][] tabLeast = new int[AXES][WINDOWS];
         private final int[] forms = new int[NODES];
         private final int[] shares = new int[NODES];
@@ -983,7 +988,7 @@ public final class WindowDesk {
 
         void clear() {
             tabs.clear();
-            Arrays.fill(leaves, NOTHING);
+            Arrays.fill(homes, NOTHING);
             Arrays.fill(forms, UNUSED);
             root = NOTHING;
             nodes = 0;
@@ -991,7 +996,7 @@ public final class WindowDesk {
 
         void copyFrom(Tree other) {
             tabs.copyFrom(other.tabs);
-            System.arraycopy(other.leaves, 0, leaves, 0, WINDOWS);
+            System.arraycopy(other.homes, 0, homes, 0, WINDOWS);
             for (int axis = 0; axis < AXES; axis++) {
                 System.arraycopy(other.tabLeast[axis], 0, tabLeast[axis], 0, WINDOWS);
             }
@@ -1008,7 +1013,7 @@ public final class WindowDesk {
         // ---- what it has
 
         int leafOf(int window) {
-            return window >= 0 && window < WINDOWS ? leaves[window] : NOTHING;
+            return window >= 0 && window < WINDOWS ? homes[window] : NOTHING;
         }
 
         boolean isShown(int window) {
@@ -1022,10 +1027,6 @@ public final class WindowDesk {
 
         int cuts() {
             return nodes / 2;
-        }
-
-        int tabsInAll() {
-            return tabs.size();
         }
 
         /** Leaf i in the order of leaves. */
@@ -1049,7 +1050,7 @@ public final class WindowDesk {
         int tabsIn(int leaf) {
             int found = 0;
             for (int i = 0; i < tabs.size(); i++) {
-                found += leaves[tabs.get(i)] == leaf ? 1 : 0;
+                found += homes[tabs.get(i)] == leaf ? 1 : 0;
             }
             return found;
         }
@@ -1057,7 +1058,7 @@ public final class WindowDesk {
         int tabIn(int leaf, int k) {
             int seen = 0;
             for (int i = 0; i < tabs.size(); i++) {
-                if (leaves[tabs.get(i)] == leaf) {
+                if (homes[tabs.get(i)] == leaf) {
                     if (seen == k) {
                         return tabs.get(i);
                     }
@@ -1148,7 +1149,7 @@ public final class WindowDesk {
                 shown[leaf] = nextShown(window, leaf);
             }
             tabs.takeOut(window);
-            leaves[window] = NOTHING;
+            homes[window] = NOTHING;
             if (shown[leaf] < 0) {
                 dropLeaf(leaf);
             }
@@ -1163,7 +1164,7 @@ public final class WindowDesk {
                 int tab = tabs.get(i);
                 if (tab == going) {
                     behind = true;
-                } else if (leaves[tab] == leaf) {
+                } else if (homes[tab] == leaf) {
                     next = tab;
                     if (behind) {
                         return next;
@@ -1198,7 +1199,7 @@ public final class WindowDesk {
 
         private void enter(int leaf, int window, int w, int h) {
             tabs.putLast(window);
-            leaves[window] = leaf;
+            homes[window] = leaf;
             tabLeast[ACROSS][window] = w;
             tabLeast[DOWN][window] = h;
         }
@@ -1247,7 +1248,7 @@ public final class WindowDesk {
             Arrays.fill(least[axis], 0);
             for (int i = 0; i < tabs.size(); i++) {
                 int tab = tabs.get(i);
-                int leaf = leaves[tab];
+                int leaf = homes[tab];
                 least[axis][leaf] = Math.max(least[axis][leaf], tabLeast[axis][tab]);
             }
         }
@@ -1333,7 +1334,8 @@ public final class WindowDesk {
             int best = NONE;
             int most = 0;
             for (int i = 0; i < WINDOWS; i++) {
-                int common = isShown(i) && meets(window, i, side) ? commonBorder(window, i, 1 - axisOf(side)) : 0;
+                boolean near = isShown(i) && meets(window, i, side);
+                int common = near ? commonBorder(window, i, 1 - axisOf(side)) : 0;
                 if (common > most) {
                     best = i;
                     most = common;
