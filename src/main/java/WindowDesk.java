@@ -1198,7 +1198,7 @@ public final class WindowDesk {
         }
 
         private void enter(int leaf, int window, int w, int h) {
-            tabs.putLast(window);
+            tabs.append(window);
             homes[window] = leaf;
             tabLeast[ACROSS][window] = w;
             tabLeast[DOWN][window] = h;
